@@ -12,6 +12,7 @@ public final class DeedsTest {
         playedHours();
         years();
         yearsByHand();
+        yearsOfPeople();
         undo();
         undoOfEach();
         Due.end();
@@ -225,7 +226,9 @@ public final class DeedsTest {
         Due.is("hour 9960", x.is(0), 9960);
         Due.is("beyond 9999", x.hour(40), -1);
         Due.is("nothing is done", x.is(0), 9960);
-        Due.is("hour(38)", x.hour(38), 0);
+        Due.is("hour(39) to just 9999", x.hour(39), 0);
+        Due.is("none beyond", x.hour(1), -1);
+        x.undo();
         Due.is("beyond 9999 by one", x.hour(2), -1);
         Due.read(x, "bite 0; hour 3; bite 0;");
         Due.is("played: of three hours one passes", x.played(0), 1);
@@ -360,6 +363,37 @@ public final class DeedsTest {
         Due.is("four hours", z.is(0), 4);
     }
 
+    // Seed 148: x 679 (1: bitten; 113 mod 3 is 2), 3236 (2: come back; 539 mod 3 is 2).
+    // Seed 100: x 583 (1: bitten; 97 mod 3 is 1), 3486 (0: bitten; 581 mod 3 is 2).
+    private static void yearsOfPeople() {
+        FarSide x = row();
+        for (int person = 0; person < 3; person++) {
+            x.person(person, 5);
+        }
+        x.hour(1);
+        x.years(148, 1);
+        parts(x, 2, 3, 2, 1, 4, 0);
+        x.undo();
+        parts(x, 2, 2, 2, 0, 5, 1);
+        Due.is("years(148, 2)", x.years(148, 2), 1);
+        parts(x, 2, 2, 2, 0, 4, 0);
+        line(x, 0, 1, 2, 0, 3);
+        line(x, 1, 1, 2, 1, 2);
+        x.undo();
+        x.years(100, 2);
+        Due.is("depth of 0", x.of(0, 2), 0);
+        Due.is("depth of 1", x.of(1, 2), 1);
+        Due.is("depth of 2", x.of(2, 2), 1);
+        Due.is("one step for both", x.undo(), 1);
+        Due.is("nobody is away", x.away(), 0);
+        Due.is("no lines", x.book(-1, 0), 0);
+        // From 383 on without hours' draws: kinds 5, 3, 3, 5, 2, 5, 2, 4, 4, 4, 1, 1.
+        FarSide nobody = row();
+        Due.is("hours of nobody", nobody.years(0, 12), 6);
+        Due.is("no lines of nobody", nobody.book(-1, 0), 0);
+        Due.is("years of nobody", row().years(0, 9), 5);
+    }
+
     // Promise 17.
     private static void undo() {
         FarSide x = row();
@@ -419,7 +453,25 @@ public final class DeedsTest {
         Due.is("X as ahead of the hour", y.is(1), 383);
         y.hour(1);
         Due.is("the same again", y.is(1), 29751);
+        undoOfManyPeople();
         bookBeyond30();
+    }
+
+    private static void undoOfManyPeople() {
+        FarSide x = row();
+        for (int person = 0; person < 5; person++) {
+            x.person(person, 10 + person);
+        }
+        for (int person = 0; person < 5; person++) {
+            x.bite(person);
+        }
+        x.hour(2);
+        x.undo();
+        x.undo();
+        for (int person = 4; person >= 0; person--) {
+            Due.is("undo of " + person, x.undo(), person);
+            parts(x, person, person, person, 0, 10 + person, 0);
+        }
     }
 
     private static void bookBeyond30() {
@@ -431,7 +483,9 @@ public final class DeedsTest {
         }
         Due.is("30 lines at most", x.book(-1, 0), 30);
         Due.is("the eldest is gone", x.book(0, 0), 2);
-        Due.is("the latest", x.book(29, 0), 31);
+        for (int i = 0; i < 30; i++) {
+            line(x, i, i + 2, 0, 2, (i + 2) % 8);
+        }
         x.undo();
         Due.is("the eldest is there again", x.book(0, 0), 1);
         Due.is("30 lines", x.book(-1, 0), 30);

@@ -162,6 +162,19 @@ public final class LandTest {
         plays(three, 2, 1, 1);
         plays(three, 1, 1, 2);
         plays(three, 0, 0, -1);
+        // From 1 on both moves lead to where the other one wins; from 0 it goes on for ever.
+        FarSide first = land(5, 3, 0, 2, 3, 6, 6, 1);
+        plays(first, 3, 1, 2);
+        plays(first, 1, 0, -1);
+        plays(first, 7, 1, 1);
+        plays(first, 0, 2, -1);
+        // From 0, too, it goes on: away from there, for ever.
+        FarSide either = land(1, 2, 3, 3, 0, 4, 5, 6);
+        plays(either, 4, 1, 1);
+        plays(either, 5, 1, 2);
+        plays(either, 6, 0, -1);
+        plays(either, 7, 1, 1);
+        plays(either, 0, 2, -1);
         Due.is("game(8)", row.game(8), -1);
         Due.is("game(-1)", row.game(-1), -1);
         Due.is("move(8)", row.move(8), -1);

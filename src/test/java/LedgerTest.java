@@ -57,6 +57,11 @@ public final class LedgerTest {
         is(of(3), 1, 0, 0);
         is(of(3, 0, 0), 1, 0, 0);
         is(of(3, 5), 1, 6, 4);
+        FarSide again = of(3, 3, 3);
+        is(again, 1, 3, 1);
+        again.entry(-1);
+        again.entry(4);
+        is(again, 1, 0, 0);
         is(of(3, 3, 3), 1, 3, 1);
         is(of(1, 1, 2, 3, 5, 1, 6, 0), 2, 6, 1, 1);
         is(of(0, 1), 2, 0, 0, 0);

@@ -140,6 +140,16 @@ public final class LookingTest {
         Due.is("the book is as it was", x.book(-1, 0), 3);
         Due.is("the steps are as they were", x.about(3), 3);
         Due.is("depth is as it was", x.of(0, 2), 2);
+        FarSide y = row();
+        y.person(0, 8);
+        for (int i = 0; i < 5; i++) {
+            y.bite(0);
+        }
+        Due.read(y, "returns 10;");
+        y.by(0);
+        for (int n = 1; n <= 6; n++) {
+            Due.is("foretold(" + n + ", 0), one back in each", y.foretold(n, 0), Math.max(0, 5 - n));
+        }
         int later = x.foretold(60, 0);
         x.hour(60);
         Due.is("it comes so", x.of(0, 2), later);
@@ -155,6 +165,9 @@ public final class LookingTest {
         Due.is("nobody is away", x.deepest(), -1);
         x.bite(2);
         Due.is("2 is", x.deepest(), 2);
+        x.bite(0);
+        Due.is("0 is, as it is lower", x.deepest(), 0);
+        x.come(0);
         x.bite(1);
         Due.is("of like ones the lowest", x.deepest(), 1);
         x.bite(2);
@@ -186,6 +199,9 @@ public final class LookingTest {
         x.person(1, 9);
         x.person(1, 9);
         Due.is("two in one place", x.alone(), 1);
+        x.walk(2, 5);
+        Due.is("each in its own", x.alone(), 7);
+        x.walk(2, 1);
         x.bite(0);
         Due.is("three in one place", x.alone(), 0);
         x.bite(2);

@@ -60,6 +60,12 @@ public final class ReadingTest {
         Due.fault("Bites 1;", 1, 0);
         Due.fault("biteS 1;", 1, 0);
         Due.fault("bitess 1;", 1, 0);
+        for (char letter : new char[] {'a', 'z', 'A', 'Z'}) {
+            Due.fault("bites" + letter + " 1;", 1, 0);
+        }
+        for (char sign : new char[] {'@', '[', '`', '{', '_', '.', ',', '\0', (char) 255}) {
+            Due.fault("bites" + sign + " 1;", 1, 5);
+        }
         Due.fault("bite", 1, 4);
         Due.fault("bite  \n ", 1, 8);
         Due.fault("bite 0", 1, 6);
@@ -197,6 +203,7 @@ public final class ReadingTest {
         Due.fault("", 0, -1);
         Due.fault("bites1;returns2;", 0, -1);
         Due.fault("\nbites\n1\n;\n", 0, -1);
+        Due.fault("person 0 cloves 0; place 0 behind 0; bite 0; come 0; walk 0 to 0; hour 1;", 0, -1);
         Due.fault("bites if 1<=2 and not 3>=4 or 5#6 then-1 else(2)end;", 0, -1);
         Due.fault("person 1 cloves 2; place 3 behind 4; bite 0; come 1; walk 2 to 3; hour 4;", 0, -1);
         StringBuilder longest = new StringBuilder("bites 1");
