@@ -280,11 +280,11 @@ public final class FarSide {
     }
 
     public int miss(int from, int to) {
-        return now.day.tellDoing(from, to);
+        return now.day.tell(Day.DOINGS, from, to);
     }
 
     public int meeting(int from, int to) {
-        return now.day.tellMeeting(from, to);
+        return now.day.tell(Day.MEETINGS, from, to);
     }
 
     public int plan(int hours, int i) {
@@ -390,8 +390,8 @@ public final class FarSide {
             case 1: return now.textCount();
             case 2: return now.ruling();
             case 3: return now.stepCount();
-            case 4: return now.day.doingCount();
-            case 5: return now.day.meetingCount();
+            case 4: return now.day.countOf(Day.DOINGS);
+            case 5: return now.day.countOf(Day.MEETINGS);
             case 6: return now.ledger.count();
             case 7: return now.saidCount();
             case 8: return tape.length();
@@ -1451,53 +1451,38 @@ public final class FarSide {
 
     // A day of hours: what is to be missed in it and what is not, as bits of hours.
     private static final class Day {
+        static final int DOINGS = 0;
+        static final int MEETINGS = 1;
+        private static final int KINDS = 2;
+
+        private final int[] hoursOf = new int[KINDS];
+        private final int[] counts = new int[KINDS];
         private final int[] fewest = new int[DAY_HOURS + 1];
-        private int doings;
-        private int doingCount;
-        private int meetings;
-        private int meetingCount;
 
         void copy(Day from) {
-            doings = from.doings;
-            doingCount = from.doingCount;
-            meetings = from.meetings;
-            meetingCount = from.meetingCount;
+            System.arraycopy(from.hoursOf, 0, hoursOf, 0, KINDS);
+            System.arraycopy(from.counts, 0, counts, 0, KINDS);
         }
 
-        int doingCount() {
-            return doingCount;
+        int countOf(int kind) {
+            return kind >= 0 && kind < KINDS ? counts[kind] : 0;
         }
 
-        int meetingCount() {
-            return meetingCount;
-        }
-
-        int tellDoing(int from, int to) {
-            if (from == NONE) {
-                doings = 0;
-                doingCount = 0;
-                return 0;
-            }
-            if (!isSpan(from, to) || doingCount == MOST_DUTIES) {
+        int tell(int kind, int from, int to) {
+            if (kind < 0 || kind >= KINDS) {
                 return NO_SUCH;
             }
-            doings |= span(from, to);
-            doingCount++;
-            return doingCount;
-        }
-
-        int tellMeeting(int from, int to) {
             if (from == NONE) {
-                meetings = 0;
-                meetingCount = 0;
+                hoursOf[kind] = 0;
+                counts[kind] = 0;
                 return 0;
             }
-            if (!isSpan(from, to) || meetingCount == MOST_DUTIES) {
+            if (!isSpan(from, to) || counts[kind] == MOST_DUTIES) {
                 return NO_SUCH;
             }
-            meetings |= span(from, to);
-            meetingCount++;
-            return meetingCount;
+            hoursOf[kind] |= span(from, to);
+            counts[kind]++;
+            return counts[kind];
         }
 
         private static boolean isSpan(int from, int to) {
@@ -1541,7 +1526,7 @@ public final class FarSide {
         private void count(int hours) {
             fewest[DAY_HOURS] = 0;
             for (int hour = DAY_HOURS - 1; hour >= 0; hour--) {
-                int staying = (doings >> hour & 1) == 0 ? fewest[hour + 1] : NONE;
+                int staying = (hoursOf[DOINGS] >> hour & 1) == 0 ? fewest[hour + 1] : NONE;
                 int biting = withBite(hour, hours);
                 boolean bites = biting != NONE && (staying == NONE || biting < staying);
                 fewest[hour] = bites ? biting : staying;
@@ -1550,7 +1535,7 @@ public final class FarSide {
 
         private int withBite(int hour, int hours) {
             int back = Math.min(DAY_HOURS, hour + hours);
-            if ((span(hour, back - 1) & meetings) != 0 || fewest[back] == NONE) {
+            if ((span(hour, back - 1) & hoursOf[MEETINGS]) != 0 || fewest[back] == NONE) {
                 return NONE;
             }
             return fewest[back] + 1;
@@ -2021,6 +2006,7 @@ public final class FarSide {
         boolean runClause(Text text, int clause) {
             int first = text.clausePart(clause, 1);
             int second = text.clausePart(clause, 2);
+            int passed = 0;
             switch (text.clausePart(clause, 0)) {
                 case Tape.PERSON:
                     return folk.tell(first, second) != NONE;
@@ -2034,7 +2020,6 @@ public final class FarSide {
                 case Tape.WALK:
                     return walked(first, second, true);
                 case Tape.HOUR:
-                    int passed = 0;
                     while (passed < first && passHour(folk, true) != NONE) {
                         passed++;
                     }

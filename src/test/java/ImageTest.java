@@ -117,11 +117,12 @@ public final class ImageTest {
     private static void entriesAndSaid() {
         FarSide x = new FarSide();
         x.person(0, 9);
+        x.person(0, 9);
         Due.read(x, "returns 4;");
         Due.read(x, "returns who * 3;");
         x.entry(1);
         x.entry(3);
-        x.said(0, 4);
+        x.said(0, 0);
         x.meeting(7, 7);
         x.miss(6, 6);
         x.image();
@@ -129,17 +130,17 @@ public final class ImageTest {
         x.entry(5);
         x.entry(5);
         x.said(-1, 0);
-        x.said(0, 0);
+        x.said(1, 4);
         x.meeting(-1, 0);
         x.meeting(6, 6);
         x.miss(-1, 0);
         x.miss(20, 20);
         Due.is("the law of others", x.law(9), 5);
-        Due.is("said of others", x.whose(), 2);
+        Due.is("said of others", x.whose(), 1);
         Due.is("plan of others", x.plan(24, 0), 7);
         x.back();
         Due.is("the law", x.law(9), 2);
-        Due.is("said", x.whose(), 1);
+        Due.is("said", x.whose(), 2);
         Due.is("need", x.need(1), 7);
         Due.is("plan", x.plan(5, 0), 2);
     }
