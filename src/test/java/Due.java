@@ -2,15 +2,29 @@
 final class Due {
     private static int wrong;
     private static int asked;
+    private static String where = "";
 
     private Due() {
     }
 
+    // What is asked from here on belongs there: a wrong answer tells it.
+    static void at(String place) {
+        where = place;
+    }
+
+    static int asked() {
+        return asked;
+    }
+
     static void is(String call, long got, long want) {
+        same(call, String.valueOf(got), String.valueOf(want));
+    }
+
+    static void same(String call, String got, String want) {
         asked++;
-        if (got != want) {
+        if (!got.equals(want)) {
             wrong++;
-            System.out.println(call + " answered " + got + ", due is " + want);
+            System.out.println(where + call + " answered " + got + ", due is " + want);
         }
     }
 

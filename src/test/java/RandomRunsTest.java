@@ -12,6 +12,7 @@ public final class RandomRunsTest {
     private final Model model = new Model();
     private final StringBuilder trace = new StringBuilder();
     private int wrong;
+    private int calls;
     private boolean quiet;
 
     private RandomRunsTest(long seed) {
@@ -41,7 +42,8 @@ public final class RandomRunsTest {
             told();
         }
         quiet = random.nextBoolean();
-        for (int call = 0; call < 480 && wrong == 0; call++) {
+        // An object has 512 calls, and reading a text takes some twenty.
+        while (calls < 490 && wrong == 0) {
             act();
         }
     }
@@ -61,6 +63,7 @@ public final class RandomRunsTest {
     }
 
     private void same(String call, long got, long want) {
+        calls++;
         trace.append(call).append(" = ").append(got);
         if (got != want) {
             wrong++;
@@ -339,15 +342,13 @@ public final class RandomRunsTest {
     private void readText() {
         String text = textByChance();
         trace.append("tape: ").append(text).append('\n');
-        x.end(0);
-        model.end(0);
+        same("end(0)", x.end(0), model.end(0));
         for (int start = 0; start < text.length(); start += 20) {
             int[] words = new int[5];
             for (int i = 0; i < 5; i++) {
                 words[i] = Due.word(text, start + 4 * i);
             }
-            x.feed(words[0], words[1], words[2], words[3], words[4]);
-            model.feed(words);
+            same("feed", x.feed(words[0], words[1], words[2], words[3], words[4]), model.feed(words));
         }
         same("end", x.end(text.length()), model.end(text.length()));
         same("text()", x.text(), model.text());
