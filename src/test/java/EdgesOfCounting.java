@@ -147,6 +147,11 @@ final class EdgesOfCounting {
         Due.is("their law", x.law(0), 0);
         Due.is("the first again", x.entry(6), 1);
         Due.is("its law", x.law(0), 1);
+        x.entry(3);
+        Due.is("the factor of two", x.law(1), 4);
+        x.entry(-1);
+        x.entry(6);
+        Due.is("the factor of one, which is free again", x.law(1), 0);
     }
 
     private static void noEntry() {
@@ -291,14 +296,10 @@ final class EdgesOfCounting {
         x.bite(4);
         Edges.refused(x, -1, () -> x.longing(4, false), () -> x.longing(4, true), () -> x.longing(-1, false),
             () -> x.longing(5, true), () -> x.longing(MOST, false), () -> x.longing(LEAST, true));
-        longsAtHome(x);
-        FarSide y = new FarSide();
-        Edges.refused(y, -1, () -> y.longing(0, false), () -> y.longing(0, true));
-    }
-
-    private static void longsAtHome(FarSide x) {
         x.come(4);
         longs(x, 0, 1);
+        FarSide y = new FarSide();
+        Edges.refused(y, -1, () -> y.longing(0, false), () -> y.longing(0, true));
     }
 
     private static void said() {

@@ -262,7 +262,6 @@ final class EdgesOfPartOne {
         Make.line(x, 0, 4, 0, 0, 1);
         Make.line(x, 1, 7, 0, 1, 0);
         Make.line(x, 2, 9, 0, 2, 5);
-        x.by(-1);
         Make.rule(x, "returns 10;");
         x.bite(0);
         x.hour(1);

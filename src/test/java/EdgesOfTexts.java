@@ -104,6 +104,11 @@ final class EdgesOfTexts {
         Due.fault("bites " + "1".repeat(294), 2, 6);
         Due.fault("b".repeat(300), 1, 0);
         good("bites 1" + "+1".repeat(146) + ";");
+        FarSide x = Make.one(9);
+        for (int i = 0; i < 4; i++) {
+            Make.rule(x, "bites 1" + "-1+1".repeat(72) + "+" + i + ";");
+            Due.is("the whole of it", x.of(0, 5), 1 + i);
+        }
         Due.fault(";".repeat(300), 1, 0);
     }
 
@@ -650,6 +655,10 @@ final class EdgesOfTexts {
         Due.is("none rules", x.about(2), -1);
         x.by(0);
         Due.is("one that rules does", x.played(0), 1);
+        x.by(-1);
+        Due.read(x, "come 0; come 0; walk 0 to 7; bite 0; hour 2; person 1 cloves 1; place 1 behind 1;");
+        Due.is("each deed", x.played(1), -1);
+        Due.is("six steps more", x.about(3), 8);
         FarSide y = new FarSide();
         Due.read(y, "");
         Due.is("no clauses", y.played(0), -1);

@@ -87,6 +87,7 @@ final class EdgesOfTheLedger {
         law(of(6, 6), 6, 1);
         law(of(1, 0, 0, 1), 0, 0, 0, 1);
         law(of(1, 3, 2, 6, 4, 5), 1, 3);
+        law(of(3, 5, 2, 1, 4, 6, 4, 4, 2), 0, 2, 0, 6);
         law(of(1, 3, 2, 6, 4, 4), 5, 0, 0, 0, 0, 4);
     }
 
@@ -104,6 +105,7 @@ final class EdgesOfTheLedger {
         law(of(0, 4), 0, 0, 0);
         law(of(0, 0, 0, 0, 0, 0, 0, 4), 0, 0, 0, 0, 0, 0, 0, 0, 0);
         law(of(0, 0, 0, 0, 0, 0, 0, 4, 4), 4, 1, 0, 0, 0, 0, 0, 0, 0);
+        law(of(0, 0, 0, 0, 0, 0, 0, 1, 1, 1, 1, 1, 1, 1, 1, 4), 0, 1, 0, 0, 0, 0, 0, 0, 3);
         Due.is("nine would be needed", of(0, 0, 0, 0, 0, 0, 0, 0, 4).law(0), -1);
     }
 
@@ -267,6 +269,12 @@ final class EdgesOfTheLedger {
         x.joy(2, 1);
         Due.is("coming back alone", x.best(0, 20), 2);
         Due.is("for one hour, too", x.best(0, 1), 2);
+        // Of two hours -2 and 4 are like 1 and 1, of three -2, 4 and 4 are more.
+        FarSide y = joys(1, -2, 4);
+        y.person(0, 2);
+        Due.is("of one hour", y.best(0, 1), 0);
+        Due.is("of two hours", y.best(0, 2), 0);
+        Due.is("of three hours", y.best(0, 3), 1);
     }
 
     private static void odds(FarSide x, int n, int depth, long upper, long lower) {
@@ -619,11 +627,13 @@ final class EdgesOfTheLedger {
         FarSide x = five();
         x.joy(3, 7);
         Make.rule(x, "bites 2; returns 3;");
+        Due.read(x, "returns who + 1;");
         x.bite(3);
         x.hour(5);
         x.miss(3, 6);
         x.meeting(9, 9);
         x.entry(3);
+        x.entry(5);
         x.said(2, 3);
         return x;
     }
@@ -652,22 +662,26 @@ final class EdgesOfTheLedger {
         x.joy(3, -7);
         x.bite(1);
         x.walk(2, 6);
-        x.hour(3);
+        x.hour(40);
         x.miss(-1, 0);
+        x.miss(20, 20);
         x.meeting(1, 1);
         x.entry(-1);
-        x.entry(6);
+        x.entry(2);
+        x.entry(2);
         x.said(-1, 0);
+        x.said(1, 9);
         x.by(-1);
         for (int i = 0; i < 20; i++) {
             x.undo();
         }
         Due.is("the hour", x.back(), 5);
         Due.same("what is seen", Edges.seen(x), before);
-        Due.is("the law of the ledger", x.law(1), 0);
-        Due.is("the entry", x.fits(0), 0);
+        Due.is("the law of the ledger", x.law(1), 4);
+        Due.is("the next entry", x.law(9), 6);
         Due.is("the plan", x.plan(6, 0), 1);
-        Due.is("whose law", x.whose(), 1);
+        Due.is("the most that is needed", x.need(1), 9);
+        Due.is("whose law", x.whose(), 3);
         Due.is("steps can be taken back as then", x.undo(), 5);
         Due.is("an hour less", x.is(0), 4);
     }

@@ -396,6 +396,8 @@ final class EdgesOfWhatComes {
         needs(day(23, 23, 0, 22), 1, 24);
         needs(day(5, 8, 0, 4, 9, 23), 1, 4);
         needs(day(5, 5, 5, 5), -1, -1);
+        needs(day(0, 0, 0, 0), -1, -1);
+        needs(day(23, 23, 23, 23), -1, -1);
         FarSide x = new FarSide();
         x.meeting(0, 23);
         needs(x, 1, 24);
